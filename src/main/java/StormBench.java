@@ -406,6 +406,9 @@ public final class StormBench {
         }
 
         void giveBack(int place) {
+            if (place < 0 || place >= before.length) {
+                return;
+            }
             int ahead = before[place];
             int next = behind[place];
             if (ahead == NOBODY) {
@@ -708,6 +711,7 @@ public final class StormBench {
             return serviceCount - 1;
         }
 
+        /** A tick, in the document's order. */
         void step() {
             tick++;
             still = true;
@@ -782,7 +786,7 @@ public final class StormBench {
         private void endPatience() {
             int guest = people.line.first;
             for (int i = 0; i < MOST_GUESTS && guest != NOBODY; i++) {
-                // Looked up first: the guest may be gone behind its turn, the one behind it can't go by that.
+                // Looked up first: the guest may go by its own turn, but never by that of another one.
                 int next = people.line.behind[guest];
                 if (people.deadline[guest] == tick) {
                     giveUp(people.job[guest]);
@@ -949,7 +953,7 @@ public final class StormBench {
             }
         }
 
-        /** A job fails: whether it pauses then, to ask again; else it is over, which its caller sees to. */
+        /** A job fails: true if it pauses then, to ask again; false if it is to be ended. */
         private boolean pausesAfterFail(int job) {
             Service s = services[jobs.service[job]];
             still = false;
@@ -967,7 +971,10 @@ public final class StormBench {
             return true;
         }
 
-        /** Becomes as another house is between two ticks: nothing due, and nobody to be answered. */
+        /**
+         * Becomes as another house is between two ticks, when nothing is due and nobody is to be answered.
+         * What is told there stays there: it is left aside in all that is tried.
+         */
         void copyFrom(House other) {
             for (int i = 0; i < MOST_SERVICES; i++) {
                 services[i].copyFrom(other.services[i]);
