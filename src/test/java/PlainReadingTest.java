@@ -40,6 +40,7 @@ public final class PlainReadingTest {
         for (int i = random.nextInt(services * 6); i > 0; i--) rule(calm);
         if (random.nextInt(8) > 0) guests(calm);
         if (random.nextInt(4) > 0) usual(calm);
+        if (storm) stormCrowd();
         int length = 6 + random.nextInt(20);
         for (int i = 0; i < length && wrong < 5; i++) {
             switch (random.nextInt(9)) {
@@ -93,6 +94,20 @@ public final class PlainReadingTest {
         due("service(9, 20, " + (i + 1) + ")", real.service(9, 20, i + 1), plain.service(9, 20, i + 1));
         int timeout = 1 + random.nextInt(3);
         due("rule(" + i + ", 0, " + timeout + ")", real.rule(i, 0, timeout), plain.rule(i, 0, timeout));
+    }
+
+    /** Guests in each tick that soon give up, for as long as the rows need to be full. */
+    private void stormCrowd() {
+        int patience = 1 + random.nextInt(3);
+        due("guests(0, " + patience + ")", real.guests(0, patience), plain.guests(0, patience));
+        due("usual(2)", real.usual(2), plain.usual(2));
+        for (int i = 0; i < 2; i++) {
+            int key = random.nextInt(8);
+            int many = 3 + random.nextInt(3);
+            due("place(" + i + ", " + key + ", " + many + ")", real.place(i, key, many), plain.place(i, key, many));
+        }
+        due("ticks(40)", real.ticks(40), plain.ticks(40));
+        look();
     }
 
     private void rule(boolean calm) {
