@@ -5,7 +5,7 @@ import java.util.List;
 import java.util.regex.Matcher;
 import java.util.regex.Pattern;
 
-/** What the tests quote stands in the document, word for word; and no part of the document is left unquoted. */
+/** What the tests quote stands in the document, word for word; and no more than a few words lie between the quotes. */
 public final class QuotesTest {
     private static final String[] TESTS = {"SentencesTest", "EdgesOfNumbersTest", "EdgesOfJobsTest", "EdgesOfATickTest",
         "EdgesOfTrialsTest"};
